@@ -433,6 +433,24 @@ public final class ChangesTest {
         due("same turn", game.count(4), 0);
         due("progress", game.piece(2, 0), 6);
         due("one change each", game.count(17), 2);
+
+        game = new BridgedPachisi();
+        game.lay(0, 33);
+        game.lay(1, 33);
+        game.lay(2, 34);
+        due("passing by a six", Check.readText(game, "6-"), 1);
+        due("another throw", game.count(4), 0);
+        due("throws of this turn", game.count(7), 1);
+        due("passing by a second six", Check.readText(game, "6-"), 1);
+        due("the next player", game.count(4), 1);
+
+        game = Check.turnOf(3);
+        game.lay(0, 9);
+        game.lay(9, 14);
+        due("read() sends back, too", Check.readText(game, "3a"), 1);
+        due("piece 0", game.piece(0, 0), NONE);
+        due("once", game.piece(0, 3), 1);
+        due("in all", game.count(13), 1);
     }
 
     private static void promise8ReadStops() {
@@ -480,6 +498,7 @@ public final class ChangesTest {
         due("in the yard already", game.lay(11, NONE), NONE);
         due("a change although nothing is different", game.count(17), 1);
         for (int piece = 0; piece < 12; piece++) {
+            game = new BridgedPachisi();
             int before = NONE;
             for (int progress = 0; progress <= 35; progress++) {
                 due("lay(" + piece + ", " + progress + ")", game.lay(piece, progress), before);
@@ -487,9 +506,9 @@ public final class ChangesTest {
                 before = progress;
             }
             due("lay back", game.lay(piece, NONE), 35);
+            due("nobody was sent back", game.count(13), 0);
+            due("it is no move", game.count(6), 1);
         }
-        due("nobody was sent back", game.count(13), 0);
-        due("it is no move", game.count(6), 1);
     }
 
     private static void promise9LayNotPossible() {

@@ -86,8 +86,11 @@ public final class LooksTest {
         due("one piece", game.field(7, 0), 1);
         due("that one", game.field(7, 1), 11);
         due("none", game.field(11, 0), 0);
+        lay(game, 0, 29);
+        due("the very lowest", game.field(29, 1), 0);
         due("none", game.field(11, 1), NONE);
         for (int field = 0; field < 32; field++) {
+            game = new BridgedPachisi();
             due("safe", game.field(field, 2), field == 0 || field == 8 || field == 16 || field == 24 ? 1 : 0);
             due("bridge", game.field(field, 3), field == 4 || field == 12 || field == 20 || field == 28 ? 1 : 0);
             due("no bridge to mend", game.field(field, 4), NONE);
@@ -98,7 +101,7 @@ public final class LooksTest {
             }
         }
         due("field(32, 9)", game.field(32, 9), NO_SUCH);
-        lay(game, 0, 32, 1, 34, 2, 35);
+        game = laid(0, 32, 1, 34, 2, 35);
         due("lanes are no fields of the ring", game.field(0, 0) + game.field(2, 0) + game.field(3, 0), 0);
     }
 
@@ -175,6 +178,9 @@ public final class LooksTest {
         due("to the pair", game.why(0, 3), 4);
         due("by the pair", game.why(0, 4), 4);
         due("far by the pair", game.why(0, 6), 4);
+        lay(game, 0, 11);
+        due("the pair is behind", game.why(0, 1), 0);
+        lay(game, 0, 7);
         lay(game, 4, 3);
         due("one alone does not block", game.why(0, 3), 0);
         due("nor by it", game.why(0, 5), 0);
@@ -219,6 +225,11 @@ public final class LooksTest {
         due("by the safe one", game.why(0, 4), 0);
         game = laid(0, 6, 1, 8);
         due("its own on a safe field", game.why(0, 2), 0);
+        game = laid(0, 8, 3, 31, 4, 30);
+        due("the piece 0 keeps others from coming in", game.why(5, 5), 6);
+        game = laid(0, 3, 1, 3, 9, 10);
+        due("the pair of the pieces 0 and 1 blocks", game.why(9, 1), 4);
+        due("the pair of the pieces 0 and 1 blocks", game.why(9, 2), 4);
         game = laid(3, 0, 4, 0, 0, 6);
         due("a pair on a safe field blocks", game.why(0, 2), 4);
     }
@@ -351,27 +362,29 @@ public final class LooksTest {
 
     private static void promise15NeedsAgainstSearch() {
         for (int fallen = 0; fallen < 16; fallen++) {
-            BridgedPachisi game = new BridgedPachisi();
-            for (int bridge = 0; bridge < 4; bridge++) {
-                if ((fallen >> bridge & 1) == 1) {
-                    lay(game, 0, 8 * bridge + 4, 1, 8 * bridge + 4, 0, NONE, 1, NONE);
-                }
+            for (int piece = 0; piece < 12; piece++) {
+                needsOfPiece(fallen, piece);
             }
-            due("the set", game.count(14), fallen);
-            for (int player = 0; player < 4; player++) {
-                due("yard", game.needs(3 * player, 0), 1 + searched(fallen, player, 0));
-                due("yard, wide", game.needs(3 * player, 1), 1 + searched(fallen, player, 0));
-                for (int progress = 0; progress <= 35; progress++) {
-                    int bridge = (8 * player + progress) % 32 / 8;
-                    if (progress < 32 && progress % 8 == 4 && (fallen >> bridge & 1) == 1) {
-                        continue;
-                    }
-                    game.lay(3 * player, progress);
-                    int want = searched(fallen, player, progress);
-                    due("needs from " + progress, game.needs(3 * player, 0), want);
-                    due("needs from " + progress + ", wide", game.needs(3 * player, 1), want);
-                }
-                game.lay(3 * player, NONE);
+        }
+    }
+
+    private static void needsOfPiece(int fallen, int piece) {
+        BridgedPachisi game = new BridgedPachisi();
+        for (int bridge = 0; bridge < 4; bridge++) {
+            if ((fallen >> bridge & 1) == 1) {
+                lay(game, 0, 8 * bridge + 4, 1, 8 * bridge + 4, 0, NONE, 1, NONE);
+            }
+        }
+        due("the set", game.count(14), fallen);
+        int player = piece / 3;
+        due("yard", game.needs(piece, 0), 1 + searched(fallen, player, 0));
+        due("yard, wide", game.needs(piece, 1), 1 + searched(fallen, player, 0));
+        for (int progress = 0; progress <= 35; progress++) {
+            if (!isFallen(fallen, player, progress)) {
+                game.lay(piece, progress);
+                int want = searched(fallen, player, progress);
+                due("needs from " + progress, game.needs(piece, 0), want);
+                due("needs from " + progress + ", wide", game.needs(piece, 1), want);
             }
         }
     }
@@ -410,6 +423,7 @@ public final class LooksTest {
         due("nextCast of the most", game.nextCast(Integer.MAX_VALUE), BAD_VALUE);
         due("nextCast of the least", game.nextCast(Integer.MIN_VALUE), BAD_VALUE);
         for (int number : new int[] {0, 1, 12345, 65536, Integer.MAX_VALUE}) {
+            game = new BridgedPachisi();
             game.seed(number);
             long x = number;
             for (int ahead = 0; ahead < 100; ahead++) {
@@ -437,8 +451,8 @@ public final class LooksTest {
             due("nothing changes", game.count(6), 1);
             due("no change", game.count(17), 3);
             int made = 0;
-            while (made < 400 && game.count(8) == NONE) {
-                made += game.play(1);
+            while (made < 400 && game.play(1) == 1) {
+                made++;
             }
             due("as play() goes", foretold, game.count(8) == NONE ? NONE : made);
             if (game.count(8) != NONE) {

@@ -75,20 +75,18 @@ public final class SavingTest {
     }
 
     private static int[] all(BridgedPachisi game) {
-        int[] seen = new int[16 + 48 + 160];
+        int[] seen = new int[16 + 12 * 2 + 4 * 2];
         int at = 0;
         for (int what = 0; what < 16; what++) {
             seen[at++] = game.count(what);
         }
         for (int piece = 0; piece < 12; piece++) {
-            for (int what = 0; what < 4; what++) {
-                seen[at++] = game.piece(piece, what);
-            }
+            seen[at++] = game.piece(piece, 0);
+            seen[at++] = game.piece(piece, 3);
         }
-        for (int field = 0; field < 32; field++) {
-            for (int what = 0; what < 5; what++) {
-                seen[at++] = game.field(field, what);
-            }
+        for (int field = 4; field < 32; field += 8) {
+            seen[at++] = game.field(field, 3);
+            seen[at++] = game.field(field, 4);
         }
         return seen;
     }

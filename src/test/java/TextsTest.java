@@ -32,8 +32,8 @@ public final class TextsTest {
     }
 
     private static void promise18Codes() {
-        BridgedPachisi game = new BridgedPachisi();
         for (int code = 0; code < 256; code++) {
+            BridgedPachisi game = new BridgedPachisi();
             boolean good = code >= 33 && code <= 126;
             due("put of the code " + code, game.put(code), good ? 1 : BAD_VALUE);
             game.wipe();
@@ -43,8 +43,8 @@ public final class TextsTest {
             game.wipe();
             long eight = Check.packed("aaaaaaa") | (long) code << 56;
             due("the first of eight", game.put(eight), good ? 8 : code == 0 ? 7 : BAD_VALUE);
-            game.wipe();
         }
+        BridgedPachisi game = new BridgedPachisi();
         due("a gap", game.put('a' << 16 | 'a'), BAD_VALUE);
         due("a gap of one bit far above", game.put(1L << 62 | 'a'), BAD_VALUE);
         due("a gap of the highest bit", game.put(Long.MIN_VALUE | 'a'), BAD_VALUE);
@@ -99,7 +99,9 @@ public final class TextsTest {
     }
 
     private static void promise20Fault() {
-        String[] texts = {"1a", "6-", "3b4c", "1", "1a2", "a", "1a2d", "0a", "7a", "1A", "aa", "11", "-1", "1a-a", "1aa", "1a2b3c4-5",
+        String[] texts = {
+            "1a", "6-", "3b4c", "1", "1a2", "a", "1a2d", "0a", "7a", "1A", "aa", "11", "-1", "1a-a", "1aa",
+            "1a2b3c4-5",
             "1a2b3c4-5a6b1c2-3a4b5c6-1a2b3c4-5a6b1c2-3a4b5c6-1a2b3c4-5a6!"};
         int[] faults = {NONE, NONE, NONE, 1, 3, 0, 3, 0, 0, 1, 0, 1, 0, 2, 2, 9, 59};
         for (int i = 0; i < texts.length; i++) {
