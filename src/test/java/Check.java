@@ -1,3 +1,6 @@
+import java.util.function.Consumer;
+import java.util.function.ToLongFunction;
+
 /** What the tests share: counting wrong answers, and bringing games to where a test wants them. */
 final class Check {
     static final int NO_SUCH = -1, BAD_VALUE = -2, BAD_TEXT = -3, TOO_MANY = -4, NOT_POSSIBLE = -5, NONE = -6;
@@ -20,6 +23,16 @@ final class Check {
 
     void holds(String what, boolean so) {
         due(what, so ? 1 : 0, 1);
+    }
+
+    /** On a game of this scene the call answers so, and changes nothing: pad, history and slots stay, too. */
+    void stays(String call, Consumer<BridgedPachisi> scene, ToLongFunction<BridgedPachisi> asked, long want) {
+        BridgedPachisi game = new BridgedPachisi();
+        BridgedPachisi unasked = new BridgedPachisi();
+        scene.accept(game);
+        scene.accept(unasked);
+        due(call, asked.applyAsLong(game), want);
+        holds(call + " changes nothing", Whole.of(game).equals(Whole.of(unasked)));
     }
 
     void end() {
