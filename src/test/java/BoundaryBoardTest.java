@@ -137,7 +137,7 @@ public final class BoundaryBoardTest {
         due("the field 30", game.field(30, 1), NONE);
     }
 
-    /** The board: "four players, 0 to 3, with 3 pieces each: the piece 3 * player and 0, 1 or 2, together (0 to 11)". */
+    /** The board: "3 pieces each: the piece 3 * player and 0, 1 or 2, together (0 to 11)". */
     private static void playersAndTheirPieces() {
         for (int player = 0; player < 4; player++) {
             for (int own = 0; own < 3; own++) {

@@ -184,7 +184,8 @@ public final class BoundaryChangesTest {
 
     /** Promise 5: "Returns its progress then": 0 for one that comes in, 35 at home. */
     private static void promise5ProgressThen() {
-        int[][] fromCastTo = {{NONE, 5, 0}, {NONE, 6, 0}, {0, 1, 1}, {25, 6, 31}, {26, 6, 32}, {31, 3, 34}, {34, 1, 35}};
+        int[][] fromCastTo = {
+            {NONE, 5, 0}, {NONE, 6, 0}, {0, 1, 1}, {25, 6, 31}, {26, 6, 32}, {31, 3, 34}, {34, 1, 35}};
         for (int[] row : fromCastTo) {
             BridgedPachisi game = new BridgedPachisi();
             game.lay(1, row[0]);

@@ -251,7 +251,7 @@ public final class BoundaryLooksTest {
         due("the last", game.count(17), 3);
     }
 
-    /** Promise 13: "5 the throw (NONE if there is none), 6 turns that have begun (1 at first), 7 throws of this turn". */
+    /** Promise 13: "5 the throw (NONE if there is none), 6 turns that have begun (1 at first), 7 throws ...". */
     private static void promise13TurnAndThrow() {
         BridgedPachisi game = new BridgedPachisi();
         for (int turn = 1; turn <= 10; turn++) {
@@ -389,7 +389,7 @@ public final class BoundaryLooksTest {
         bestIs("nor is one sent back from the lane on", 2, 2, 0, 30, 1, 9, 2, 31, 3, 24, 6, 17);
     }
 
-    /** Promise 14: "otherwise one that stands in a pair then": on the ring alone, and not one that stood in it before. */
+    /** Promise 14: "otherwise one that stands in a pair then": on the ring alone, and not one that stood in it. */
     private static void promise14PairThen() {
         bestIs("ahead of a greater progress", 0, 3, 0, 6, 1, 9, 2, 25);
         bestIs("a pair on the last field of the ring", 0, 3, 0, 28, 1, 31, 2, 30);

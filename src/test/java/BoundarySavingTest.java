@@ -178,8 +178,8 @@ public final class BoundarySavingTest {
                     + game.fault() + game.wipe() + game.save(0) + game.save(1);
             CHECK.holds("some answers", sum != 0);
             due("changes", game.count(17), changes);
-            sum = game.set(3, 0) + game.seed(-1) + game.move(3) + game.move(0) + game.skip() + game.play(0) + game.read()
-                    + game.lay(12, 0) + game.lay(0, 36) + game.restore(2);
+            sum = game.set(3, 0) + game.seed(-1) + game.move(3) + game.move(0) + game.skip() + game.play(0)
+                    + game.read() + game.lay(12, 0) + game.lay(0, 36) + game.restore(2);
             due("errors: five times BAD_VALUE, twice NO_SUCH and NOT_POSSIBLE, BAD_TEXT", sum, -10 - 2 - 10 - 3);
             due("changes", game.count(17), changes);
             due("undo()", game.undo(), changes == 0 ? NOT_POSSIBLE : changes - 1);

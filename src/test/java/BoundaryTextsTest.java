@@ -177,7 +177,7 @@ public final class BoundaryTextsTest {
         }
     }
 
-    /** Promise 18: "8 bits that are 0 mean that there are no more characters, and everything above them has to be 0". */
+    /** Promise 18: "no more characters, and everything above them has to be 0, too". */
     private static void promise18BitsAbove() {
         for (int characters = 0; characters <= 6; characters++) {
             String text = "555555".substring(0, characters);
