@@ -357,7 +357,7 @@ public final class BridgedPachisi {
         return field >= 0 && field < FIELDS && field % QUARTER == BRIDGE_IN_QUARTER ? field / QUARTER : NONE;
     }
 
-    /** The field of the ring that belongs to a progress of a player, NONE if the progress is not on the ring. */
+    /** NONE off the ring: who asks there for a bridge, a safe field or other players finds none. */
     private static int ringField(int player, int progress) {
         return progress >= 0 && progress < FIELDS ? (QUARTER * player + progress) % FIELDS : NONE;
     }
@@ -370,7 +370,7 @@ public final class BridgedPachisi {
         return 1 + x / 65536 % HIGHEST_CAST;
     }
 
-    /** How many characters the number gives, 0 if it gives none or is wrong. */
+    /** 0 for a wrong number, too, since put() refuses it just as one without characters. */
     private static int lengthOf(long characters) {
         long rest = characters;
         int length = 0;
@@ -385,7 +385,7 @@ public final class BridgedPachisi {
         return rest == 0 ? length : 0;
     }
 
-    /** The pieces and the bridges, as they stand. */
+    /** What does not depend on whose turn it is: the pieces and the bridges. */
     private static final class Board {
         private final int[] progress = new int[PIECES];
         private final int[] sentBack = new int[PIECES];
@@ -433,7 +433,7 @@ public final class BridgedPachisi {
             return NONE;
         }
 
-        /** How many pieces of other players stand where a progress of this player is: on the ring alone. */
+        /** None off the ring: each player has a lane and a home of its own. */
         private int rivalsAt(int player, int at) {
             int field = ringField(player, at);
             int found = 0;
@@ -445,7 +445,7 @@ public final class BridgedPachisi {
             return found;
         }
 
-        /** How many other pieces of its player have this progress. */
+        /** The piece itself is left out: it takes no room from itself. */
         private int matesAt(int piece, int at) {
             int first = piece - piece % TEAM;
             int found = 0;
@@ -461,7 +461,7 @@ public final class BridgedPachisi {
             return isOnRing(progress[piece]) && matesAt(piece, progress[piece]) > 0;
         }
 
-        /** Whether two others of its player leave no room; in the yard and at home there is room for all. */
+        /** In the yard and at home there is room for all. */
         private boolean isFullFor(int piece, int at) {
             return at != YARD && at != HOME && matesAt(piece, at) >= PAIR;
         }
@@ -504,7 +504,8 @@ public final class BridgedPachisi {
         }
 
         private boolean isFallenAt(int player, int at) {
-            return bridgeState(ringField(player, at)) == FALLEN;
+            int bridge = bridgeOn(ringField(player, at));
+            return bridge != NONE && bridges[bridge] == FALLEN;
         }
 
         private int fallenSet() {
@@ -517,7 +518,7 @@ public final class BridgedPachisi {
             return set;
         }
 
-        /** The progress to which a throw leads from another, NOWHERE if the throw is not used up just so. */
+        /** NOWHERE if the throw cannot be used up just so, whichever way it fails: all of these are one reason. */
         private int target(int player, int from, int cast) {
             if (from == YARD) {
                 return 0;
@@ -612,7 +613,6 @@ public final class BridgedPachisi {
             return thrown != NONE;
         }
 
-        /** Why a piece cannot be moved by a throw, FREE if it can. */
         private int reason(int piece, int cast) {
             int mover = piece / TEAM;
             int from = board.progress[piece];
@@ -647,7 +647,7 @@ public final class BridgedPachisi {
             return false;
         }
 
-        /** The best piece to move by the throw, 0 to 11, NONE if none can be moved. */
+        /** As the board numbers the pieces, 0 to 11, since it is moved on the board. */
         private int bestPiece() {
             int found = NONE;
             int foundWorth = 0;
@@ -663,7 +663,7 @@ public final class BridgedPachisi {
             return found;
         }
 
-        /** The kind of the move, and below it the progress, which is far smaller than 100. */
+        /** A better kind weighs more than any progress, which is far smaller than 100. */
         private int worthOfMove(int piece) {
             int from = board.progress[piece];
             int to = board.target(player, from, thrown);
@@ -688,7 +688,7 @@ public final class BridgedPachisi {
             casts++;
         }
 
-        /** For a piece that can be moved by the throw; answers its progress then. */
+        /** Only for a piece that can be moved by the throw: who calls has asked for the reason already. */
         private int moveByThrow(int piece) {
             int to = board.target(player, board.progress[piece], thrown);
             board.sendRivalsBack(player, to);
@@ -712,7 +712,7 @@ public final class BridgedPachisi {
             board.mend(turns, settings[MENDS]);
         }
 
-        /** Answers how many throws are made: as many as asked for, or until the game is over. */
+        /** Answers how many throws are made, which are fewer than asked for if the game ends by one. */
         private int playOn(int most) {
             int made = 0;
             while (made < most && !isOver()) {
@@ -728,7 +728,7 @@ public final class BridgedPachisi {
             return made;
         }
 
-        /** A move of a text: the piece 0 to 2, or NONE for passing; false, and nothing done, if not possible. */
+        /** NONE is passing. The throw is taken last: by a move that is not possible nothing may have changed. */
         private boolean makeMove(int cast, int teamPiece) {
             if (teamPiece == NONE) {
                 if (canMoveBy(cast)) {
@@ -757,7 +757,7 @@ public final class BridgedPachisi {
         }
     }
 
-    /** How many throws lie between a progress and home on an empty board, told in two ways. */
+    /** The board may hold any pieces: a way is told by its bridges alone. The row is made once and used again. */
     private static final class Route {
         private final int[] needed = new int[HOME + 1];
 
@@ -788,7 +788,6 @@ public final class BridgedPachisi {
             return needed[HOME];
         }
 
-        /** Finds all that is one throw farther than what was found in this round. */
         private void widen(Board board, int player, int round) {
             for (int at = 0; at < HOME; at++) {
                 for (int cast = 1; cast <= HIGHEST_CAST && needed[at] == round; cast++) {
@@ -801,7 +800,7 @@ public final class BridgedPachisi {
         }
     }
 
-    /** The text of moves: a digit and a letter or "-" each. */
+    /** Its moves may be asked for only if it has no fault: each has a digit and a letter or "-" then. */
     private static final class Pad {
         private final char[] text = new char[PAD_ROOM];
         private int length = 0;
@@ -845,7 +844,7 @@ public final class BridgedPachisi {
         }
     }
 
-    /** The states before the latest changes, in a ring of rooms that are used again. */
+    /** A ring of rooms that are used again, so that a change makes no new state once they are there. */
     private static final class History {
         private final Game[] states = new Game[HISTORY_ROOM];
         private int next = 0;

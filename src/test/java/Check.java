@@ -21,6 +21,14 @@ final class Check {
         }
     }
 
+    void due(String what, String got, String want) {
+        asked++;
+        if (!got.equals(want)) {
+            wrong++;
+            System.out.println(name + ": " + what + " is\n" + got + "\ndue is\n" + want);
+        }
+    }
+
     void holds(String what, boolean so) {
         due(what, so ? 1 : 0, 1);
     }
